@@ -930,7 +930,7 @@ public final class NumberedLoops {
             blanks = withoutBlanks;
             numbers = withNumbers;
             size = 0;
-            decide(Math.min(shape.cells, MOST_CELLS) - 1, 0L);
+            decide(this, Math.min(shape.cells, MOST_CELLS) - 1, 0L);
         }
 
         long ring(int k) {
@@ -964,25 +964,26 @@ public final class NumberedLoops {
         /**
          * Cells are said to be inside or outside, the last one first; the loop's sides are those between unlike ones.
          * The highest side that is not yet settled is always the one right of the cell: the choice that leaves
-         * it out goes first, so that the lesser loops are found first.
+         * it out goes first, so that the lesser loops are found first. No deeper than there are cells.
          */
-        private void decide(int cell, long between) {
-            if (size >= rings.length) {
+        private static void decide(Loops loops, int cell, long between) {
+            if (loops.size >= loops.rings.length) {
                 return;
             }
             if (cell < 0) {
-                takeRing(between);
+                loops.takeRing(between);
                 return;
             }
+            Shape shape = loops.shape;
             long changed = between ^ shape.roundCell(cell);
             boolean rightIsIn = (between & bit(shape.sideOfCell(cell, Shape.RIGHT))) != 0L;
             long first = rightIsIn ? changed : between;
             long second = rightIsIn ? between : changed;
-            if (fits(cell, first)) {
-                decide(cell - 1, first);
+            if (loops.fits(cell, first)) {
+                decide(loops, cell - 1, first);
             }
-            if (fits(cell, second)) {
-                decide(cell - 1, second);
+            if (loops.fits(cell, second)) {
+                decide(loops, cell - 1, second);
             }
         }
 

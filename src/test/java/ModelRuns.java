@@ -17,6 +17,8 @@ public final class ModelRuns {
     private static final int CALLS = 150;
     private static final int BAD = -1, STATE = -2, FULL = -3, CLASHES = -4, NONE = -9;
     private static int wrong = 0;
+    /** How often a hint of each kind came from each rule, so that one can see that all of them were tried. */
+    private static final int[][] SEEN = new int[4][4];
 
     /** Numbers (-1: none) and sides (0, 1, 2) at one time. */
     private record State(int[] numbers, int[] sides) {
@@ -33,6 +35,8 @@ public final class ModelRuns {
         int width;
         int height;
         State state;
+        final List<List<Integer>> hands = new ArrayList<>();
+        final List<List<Integer>> ends = new ArrayList<>();
         final ArrayList<State> past = new ArrayList<>();
         final State[] images = new State[2];
         final StringBuilder text = new StringBuilder();
@@ -47,6 +51,20 @@ public final class ModelRuns {
             state = new State(numbers, new int[w * (h + 1) + (w + 1) * h]);
             past.clear();
             Arrays.fill(images, null);
+            hands.clear();
+            ends.clear();
+            for (int s = 0; s < sides(); s++) {
+                hands.add(lookForHands(s));
+                ends.add(lookForPoints(s));
+            }
+        }
+
+        List<Integer> pointsOfSide(int side) {
+            return ends.get(side);
+        }
+
+        List<Integer> handsOfSide(int side) {
+            return hands.get(side);
         }
 
         int cells() {
@@ -81,7 +99,7 @@ public final class ModelRuns {
             return new int[] {lying(x - 1, y), lying(x, y), standing(x, y - 1), standing(x, y)};
         }
 
-        List<Integer> pointsOfSide(int side) {
+        List<Integer> lookForPoints(int side) {
             List<Integer> those = new ArrayList<>();
             for (int p = 0; p < points(); p++) {
                 for (int s : sidesOfPoint(p)) {
@@ -94,7 +112,7 @@ public final class ModelRuns {
         }
 
         /** The cells on a side's hands; -1 is what is beyond. */
-        List<Integer> handsOfSide(int side) {
+        List<Integer> lookForHands(int side) {
             List<Integer> those = new ArrayList<>();
             for (int c = 0; c < cells(); c++) {
                 for (int s : sidesOfCell(c)) {
@@ -782,6 +800,84 @@ public final class ModelRuns {
             return right;
         }
 
+        /**
+         * Rules 0 and 1 mostly come first, so that rules 2 and 3 seldom have their say: marks that tell something by
+         * the former are followed, those that clash there are taken back, till the latter are all that is left.
+         */
+        boolean quietens() {
+            boolean right = true;
+            for (int i = 0; i < 60 && right; i++) {
+                Hint h = model.hint();
+                right = asks("hint", 0, 0, 0) && asks("hint", 1, 0, 0) && asks("hint", 2, 0, 0)
+                    && asks("hinted", 0, 0, 0);
+                SEEN[h.kind][h.rule == NONE ? 0 : h.rule]++;
+                if (h.kind == 0) {
+                    break;
+                }
+                if (h.kind != 3) {
+                    right &= asks("step", 0, 0, 0);
+                } else if (h.rule < 2) {
+                    int[] around = h.rule == 0 ? model.sidesOfCell(h.place) : model.sidesOfPoint(h.place);
+                    int side = around[random.nextInt(4)];
+                    right &= side == NONE || asks("marks", side, 0, 0);
+                } else {
+                    break;
+                }
+            }
+            return right;
+        }
+
+        /** Marks that rules 0 and 1 have nothing to say of, right and wrong ones, as many as there can be. */
+        boolean marksSparsely(boolean[] in, int amiss) {
+            boolean right = true;
+            for (int i = 0; i < 60 && right; i++) {
+                int s = random.nextInt(model.sides());
+                if (model.state.sides[s] == 0) {
+                    List<Integer> hands = model.handsOfSide(s);
+                    boolean line = in[hands.get(0) + 1] != in[hands.get(1) + 1] ^ random.nextInt(100) < amiss;
+                    right = asks("marks", s, line ? 1 : 2, 0);
+                    Hint h = model.hint();
+                    if (h.kind != 0 && h.rule < 2) {
+                        right &= asks("undo", 0, 0, 0);
+                    } else {
+                        SEEN[h.kind][h.rule == NONE ? 0 : h.rule]++;
+                        right &= asks("hint", 0, 0, 0) && asks("hint", 2, 0, 0) && asks("hinted", 0, 0, 0);
+                    }
+                }
+            }
+            return right;
+        }
+
+        /** Sides between cells that are said to be in or out at random, now and then a wrong one: few points clash. */
+        void goQuietly() {
+            int w = 4 - random.nextInt(8) / 3;
+            int h = 4 - random.nextInt(8) / 3;
+            boolean right = asks("clear", 0, 0, 0);
+            for (int i = 0; i < h * (w + 1); i++) {
+                int sign = random.nextInt(25) == 0 ? '0' + random.nextInt(4) : '.';
+                right &= asks("type", i % (w + 1) == w ? ';' : sign, 0, 0);
+            }
+            right &= asks("grid", 0, 0, 0);
+            boolean[] in = new boolean[w * h + 1];
+            for (int c = 1; c < in.length; c++) {
+                in[c] = random.nextInt(5) == 0;
+            }
+            int percent = 10 + random.nextInt(50);
+            int amiss = random.nextInt(3) * 4;
+            if (random.nextBoolean()) {
+                right = right && marksSparsely(in, amiss * 3);
+                percent = 0;
+            }
+            for (int s = 0; s < model.sides() && right; s++) {
+                List<Integer> hands = model.handsOfSide(s);
+                boolean line = in[hands.get(0) + 1] != in[hands.get(1) + 1] ^ random.nextInt(100) < amiss;
+                right = random.nextInt(100) >= percent || asks("marks", s, line ? 1 : 2, 0);
+            }
+            if (right && quietens()) {
+                allIsSeen();
+            }
+        }
+
         void go() {
             boolean right = random.nextInt(5) == 0 || newGrid();
             while (calls < CALLS && right) {
@@ -794,7 +890,11 @@ public final class ModelRuns {
         int runs = args.length > 0 ? Integer.parseInt(args[0]) : RUNS;
         for (int run = 0; run < runs && wrong < 10; run++) {
             new Run(run).go();
+            for (int i = 0; i < 10 && wrong < 10; i++) {
+                new Run(RUNS * 10 + run * 10 + i).goQuietly();
+            }
         }
+        System.out.println("hints by kind and rule: " + Arrays.deepToString(SEEN));
         System.out.println(wrong == 0 ? "class and model answer alike" : wrong + " answers are not as due");
         if (wrong != 0) {
             System.exit(1);

@@ -1,0 +1,111 @@
+import java.io.IOException;
+import java.lang.reflect.Constructor;
+import java.lang.reflect.Field;
+import java.lang.reflect.Method;
+import java.lang.reflect.Modifier;
+import java.nio.file.Files;
+import java.nio.file.Path;
+import java.util.List;
+import java.util.Set;
+import java.util.TreeSet;
+import java.util.regex.Pattern;
+
+/** What of LANGUAGE.md a look at the class and its source can tell. */
+public final class LanguageTest {
+    private static final Set<String> FACE = Set.of("type(int)int", "clear()int", "grid()int", "number(int)int",
+        "side(int)int", "sideOf(int,int,int)int", "marks(int,int)int", "numbers(int,int)int", "step()int",
+        "spreads()int", "undo()int", "hint(int)int", "hinted()long", "many(int)int", "loop(int)long",
+        "forced(int)long", "inside(int)int", "numbersThat(int)int", "tryNext()int", "keep(int)int", "back(int)int",
+        "count(int)int");
+    private static int wrong = 0;
+
+    private static void holds(boolean so, String what) {
+        if (!so) {
+            wrong++;
+            System.out.println(what);
+        }
+    }
+
+    private static void face() {
+        Class<?> c = NumberedLoops.class;
+        holds(Modifier.isPublic(c.getModifiers()) && Modifier.isFinal(c.getModifiers()), "public and final");
+        Set<String> face = new TreeSet<>();
+        Set<String> names = new TreeSet<>();
+        for (Method m : c.getDeclaredMethods()) {
+            if (Modifier.isPublic(m.getModifiers())) {
+                face.add(signature(m));
+                names.add(m.getName());
+            }
+        }
+        holds(face.equals(FACE), "the public methods are " + face);
+        for (Method m : c.getDeclaredMethods()) {
+            boolean hidden = Modifier.isPrivate(m.getModifiers()) && !names.contains(m.getName());
+            holds(face.contains(signature(m)) || hidden, "not private, or with a public name: " + m);
+            holds(m.getParameterCount() <= 7, "too many parameters: " + m);
+        }
+        for (Constructor<?> k : c.getDeclaredConstructors()) {
+            holds(Modifier.isPublic(k.getModifiers()) && k.getParameterCount() == 0, "constructor " + k);
+        }
+        Set<String> constants = new TreeSet<>();
+        for (Field f : c.getDeclaredFields()) {
+            if (!Modifier.isPrivate(f.getModifiers())) {
+                constants.add(f.getName());
+            }
+            holds(!Modifier.isStatic(f.getModifiers()) || Modifier.isFinal(f.getModifiers()), "not final: " + f);
+        }
+        holds(constants.equals(Set.of("BAD", "STATE", "FULL", "CLASHES", "NONE")), "constants " + constants);
+    }
+
+    private static String signature(Method m) {
+        StringBuilder s = new StringBuilder(m.getName()).append('(');
+        for (Class<?> p : m.getParameterTypes()) {
+            s.append(s.charAt(s.length() - 1) == '(' ? "" : ",").append(p.getName());
+        }
+        return s.append(')').append(m.getReturnType().getName()).toString();
+    }
+
+    private static void classesInside() {
+        holds(NumberedLoops.class.getDeclaredClasses().length <= 12, "too many classes");
+        for (Class<?> c : NumberedLoops.class.getDeclaredClasses()) {
+            holds(Modifier.isStatic(c.getModifiers()), "not static: " + c);
+            int fields = 0;
+            for (Field f : c.getDeclaredFields()) {
+                fields += Modifier.isStatic(f.getModifiers()) ? 0 : 1;
+            }
+            holds(fields <= 20, "too many fields: " + c);
+        }
+    }
+
+    private static void source() throws IOException {
+        List<String> lines = Files.readAllLines(Path.of("src/main/java/NumberedLoops.java"));
+        Pattern unwanted = Pattern.compile("\\b(throw|throws|try|catch|finally|synchronized|assert|package|Exact|Object"
+            + "|System|Thread|Random|protected)\\b|->|::|Exact\\(");
+        // Objects are made with the object alone, never by a call: so no run of calls can fill the room.
+        Pattern making = Pattern.compile("^ +private final \\S+ \\w+ = new .*|^ +\\w+ = new (long|int)\\[.*");
+        int since = 0;
+        for (int i = 0; i < lines.size(); i++) {
+            String line = lines.get(i);
+            String code = line.trim().startsWith("*") || line.trim().startsWith("/") ? "" : line;
+            String at = "line " + (i + 1) + ": ";
+            holds(!unwanted.matcher(code).find(), at + "not in the language: " + line);
+            holds(!code.startsWith("import ") || code.equals("import java.util.Arrays;"), at + line);
+            holds(!code.contains(" new ") || making.matcher(code).matches(), at + "makes an object: " + line);
+            holds(!code.contains(" while "), at + "a loop without a counter: " + line);
+            holds(line.chars().allMatch(c -> c < 128), at + "not ASCII");
+            boolean opens = code.matches(" {4,8}(public|private|static|final|int|long|boolean|void|[A-Z]\\w*).*\\) \\{");
+            since = opens ? i : since;
+            boolean ends = code.matches(" {4,8}\\}");
+            holds(!ends || i - since <= 60 || code.startsWith("    }"), at + "a method of over sixty lines");
+        }
+    }
+
+    public static void main(String[] args) throws IOException {
+        face();
+        classesInside();
+        source();
+        System.out.println(wrong == 0 ? "the language is kept to" : wrong + " rules are broken");
+        if (wrong != 0) {
+            System.exit(1);
+        }
+    }
+}
