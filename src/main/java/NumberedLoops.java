@@ -252,7 +252,7 @@ public final class NumberedLoops {
         if (image < 0 || image >= IMAGES) {
             return BAD;
         }
-        images.put(image, board);
+        images.store(image, board);
         return openSides();
     }
 
@@ -685,11 +685,11 @@ public final class NumberedLoops {
             return at(kept, place) == 1;
         }
 
-        void put(int place, Board board) {
-            NumberedLoops.put(lines, place, board.lines);
-            NumberedLoops.put(blanks, place, board.blanks);
-            NumberedLoops.put(numbers, place, board.numbers);
-            NumberedLoops.put(kept, place, 1);
+        void store(int place, Board board) {
+            put(lines, place, board.lines);
+            put(blanks, place, board.blanks);
+            put(numbers, place, board.numbers);
+            put(kept, place, 1);
         }
 
         void give(int place, Board board) {
@@ -708,7 +708,7 @@ public final class NumberedLoops {
         int size = 0;
 
         void remember(Board board) {
-            shelf.put(next, board);
+            shelf.store(next, board);
             next = next + 1 < MOST_UNDONE ? next + 1 : 0;
             size = Math.min(size + 1, MOST_UNDONE);
         }
