@@ -14,7 +14,8 @@ import java.util.TreeSet;
  */
 public final class ModelRuns {
     private static final int RUNS = 1200;
-    private static final int CALLS = 150;
+    /** No object is asked more than 512 times; the last 64 are for a look at all of it. */
+    private static final int CALLS = 512 - 64;
     private static final int BAD = -1, STATE = -2, FULL = -3, CLASHES = -4, NONE = -9;
     private static int wrong = 0;
     /** How often a hint of each kind came from each rule, so that one can see that all of them were tried. */
@@ -675,7 +676,11 @@ public final class ModelRuns {
             random = new Random(run * 7919L + 17);
         }
 
+        /** If the answer is as due; not, too, if the object may not be asked any more. */
         boolean asks(String call, int a, int b, int c) {
+            if (calls == CALLS) {
+                return false;
+            }
             calls++;
             long due = model.answer(call, a, b, c);
             long got = answer(x, call, a, b, c);
@@ -781,8 +786,13 @@ public final class ModelRuns {
             };
         }
 
-        /** Behind each call: all that can be seen of the state. */
-        boolean allIsSeen() {
+        /** Behind each call: something of the state. */
+        boolean someIsSeen() {
+            return asks("count", random.nextInt(8), 0, 0) && asks("side", random.nextInt(model.sides()), 0, 0);
+        }
+
+        /** Behind a run: all that can be seen of the state. */
+        void allIsSeen() {
             boolean right = true;
             for (int i = 0; i < 8 && right; i++) {
                 right = x.count(i) == model.count(i);
@@ -797,7 +807,6 @@ public final class ModelRuns {
                 wrong++;
                 System.out.println("run " + run + ":" + told + " left another state than is due");
             }
-            return right;
         }
 
         /**
@@ -873,16 +882,18 @@ public final class ModelRuns {
                 boolean line = in[hands.get(0) + 1] != in[hands.get(1) + 1] ^ random.nextInt(100) < amiss;
                 right = random.nextInt(100) >= percent || asks("marks", s, line ? 1 : 2, 0);
             }
-            if (right && quietens()) {
-                allIsSeen();
+            if (right) {
+                quietens();
             }
+            allIsSeen();
         }
 
         void go() {
             boolean right = random.nextInt(5) == 0 || newGrid();
-            while (calls < CALLS && right) {
-                right = asksSomething() && allIsSeen();
+            while (right) {
+                right = asksSomething() && someIsSeen();
             }
+            allIsSeen();
         }
     }
 
