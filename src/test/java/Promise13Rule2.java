@@ -85,6 +85,22 @@ public final class Promise13Rule2 extends Due {
         noHint(x);
     }
 
+    static void toJoinTwoChainsIsNeitherWhenANumberNeedsMore() {
+        NumberedLoops x = fourByFour();
+        lines(x, 5, 7);
+        x.numbers(15, 2);
+        noHint(x);
+        x.numbers(2, 2);
+        noHint(x);
+    }
+
+    static void linesAtOneOfThePointsAloneAreNeitherWhenANumberNeedsMore() {
+        NumberedLoops x = fourByFour();
+        lines(x, 5);
+        x.numbers(15, 2);
+        noHint(x);
+    }
+
     static void linesAtOneOfThePointsAloneAreNeither() {
         NumberedLoops x = fourByFour();
         lines(x, 5, 11);
@@ -102,6 +118,9 @@ public final class Promise13Rule2 extends Due {
         for (int n = 1; n <= 3; n++) {
             NumberedLoops x = openAbove();
             x.numbers(15, n);
+            hintIs(x, BLANKS, 2, 5, 5);
+            x.numbers(15, -1);
+            x.numbers(0, n);
             hintIs(x, BLANKS, 2, 5, 5);
         }
     }

@@ -1,49 +1,103 @@
+import java.util.Arrays;
+
 /** Promise 13, rule 3: what lies on the two hands of a side. */
 public final class Promise13Rule3 extends Due {
-    private static final int[] COLUMN = {1, 5, 9, 13, 17};
-    private static final int[] ROW = {30, 31, 32, 33, 34};
-
-    /** From what is beyond to what is beyond, by four sides of five: what is told of the fifth. */
-    private static void eachWayAcross(int[] across) {
-        for (int open = 0; open < 5; open++) {
-            for (int ways = 0; ways < 16; ways++) {
-                NumberedLoops x = fourByFour();
-                int left = ways;
-                for (int i = 0; i < 5; i++) {
-                    if (i != open) {
-                        x.marks(across[i], left % 2 == 0 ? LINE : BLANK);
-                        left /= 2;
-                    }
+    /** Sides that lead from what is beyond to what is beyond, all but one marked: what is told of that one. */
+    private static void eachWayAcross(int w, int h, int... across) {
+        for (int open = 0; open < across.length; open++) {
+            for (int ways = 0; ways < 1 << across.length; ways++) {
+                NumberedLoops x = told(empty(w, h));
+                int lines = marks(x, across, ways & ~(1 << open), 1 << open);
+                if ((ways >> open & 1) == 0 && !rule1Tells(x)) {
+                    hintIs(x, lines % 2 == 1 ? LINES : BLANKS, 3, across[open], across[open]);
                 }
-                int lines = 4 - Integer.bitCount(ways);
-                hintIs(x, lines % 2 == 1 ? LINES : BLANKS, 3, across[open], across[open]);
             }
         }
     }
 
-    /** By five sides of five: odd lines clash at the first of them. */
-    private static void eachWayAllAcross(int[] across) {
-        for (int ways = 0; ways < 32; ways++) {
-            NumberedLoops x = fourByFour();
-            for (int i = 0; i < 5; i++) {
-                x.marks(across[i], (ways >> i & 1) == 1 ? LINE : BLANK);
-            }
-            if (Integer.bitCount(ways) % 2 == 1) {
-                hintIs(x, CLASH, 3, across[0]);
-            } else {
+    /** All of them marked: odd lines clash at the lowest, even ones don't. */
+    private static void eachWayAllAcross(int w, int h, int... across) {
+        for (int ways = 0; ways < 1 << across.length; ways++) {
+            NumberedLoops x = told(empty(w, h));
+            int lines = marks(x, across, ways, 0);
+            if (lines % 2 == 1 && !rule1Tells(x)) {
+                hintIs(x, CLASH, 3, Arrays.stream(across).min().getAsInt());
+            } else if (!rule1Tells(x)) {
                 noHint(x);
             }
         }
     }
 
+    /** Those of the sides whose bit is set become lines, the others blank, but for those that stay open. */
+    private static int marks(NumberedLoops x, int[] sides, int lines, int open) {
+        for (int i = 0; i < sides.length; i++) {
+            if ((open >> i & 1) == 0) {
+                x.marks(sides[i], (lines >> i & 1) == 1 ? LINE : BLANK);
+            }
+        }
+        return Integer.bitCount(lines);
+    }
+
+    /** Two lines that meet at a point have rule 1 go first. */
+    private static boolean rule1Tells(NumberedLoops x) {
+        return x.hint(1) == 1;
+    }
+
+    /** Of each column and each row but the outermost: at corners rule 1 goes first. */
+    private static void eachColumnAndRow(boolean all) {
+        for (int w = 1; w <= 4; w++) {
+            for (int h = 1; h <= 4; h++) {
+                for (int x = 1; x < w - 1; x++) {
+                    int[] column = new int[h + 1];
+                    for (int y = 0; y <= h; y++) {
+                        column[y] = lying(w, x, y);
+                    }
+                    across(all, w, h, column);
+                }
+                for (int y = 1; y < h - 1; y++) {
+                    int[] row = new int[w + 1];
+                    for (int x = 0; x <= w; x++) {
+                        row[x] = standing(w, h, x, y);
+                    }
+                    across(all, w, h, row);
+                }
+            }
+        }
+    }
+
+    private static void across(boolean all, int w, int h, int[] sides) {
+        if (all) {
+            eachWayAllAcross(w, h, sides);
+        } else {
+            eachWayAcross(w, h, sides);
+        }
+    }
+
     static void anOpenSideIsToldByWhatIsBeyond() {
-        eachWayAcross(COLUMN);
-        eachWayAcross(ROW);
+        eachColumnAndRow(false);
     }
 
     static void aLineOrABlankClashesByWhatIsBeyond() {
-        eachWayAllAcross(COLUMN);
-        eachWayAllAcross(ROW);
+        eachColumnAndRow(true);
+    }
+
+    static void aWayMayTurn() {
+        eachWayAcross(4, 4, 1, 5, 25, 26);
+        eachWayAcross(4, 4, 2, 6, 28, 29);
+        eachWayAcross(4, 4, 13, 17, 30, 31);
+        eachWayAcross(4, 4, 14, 18, 33, 34);
+        eachWayAllAcross(4, 4, 1, 5, 25, 26);
+        eachWayAllAcross(4, 4, 2, 6, 28, 29);
+        eachWayAllAcross(4, 4, 13, 17, 30, 31);
+        eachWayAllAcross(4, 4, 14, 18, 33, 34);
+    }
+
+    static void theFirstSideIsLookedAt() {
+        NumberedLoops x = fourByFour();
+        blanks(x, 21, 22, 6, 10, 32, 31, 30);
+        hintIs(x, BLANKS, 3, 0, 0);
+        x.marks(30, LINE);
+        hintIs(x, LINES, 3, 0, 0);
     }
 
     static void aCellOfOneRowHasWhatIsBeyondOnBothHands() {
@@ -73,12 +127,18 @@ public final class Promise13Rule3 extends Due {
         noHint(x);
     }
 
-    /** A ring of cells round cell 10: from 5 over 6, 7, 11, 15, 14, 13, 9 to 5. */
-    private static final int[] ROUND = {9, 11, 13, 15, 27, 28, 37, 38};
+    /** What leads round a cell that has eight round it: by those eight, one to the next. */
+    private static int[] round(int x, int y) {
+        int[] round = {lying(4, x - 1, y), lying(4, x + 1, y), lying(4, x - 1, y + 1), lying(4, x + 1, y + 1),
+            standing(4, 4, x, y - 1), standing(4, 4, x + 1, y - 1), standing(4, 4, x, y + 1),
+            standing(4, 4, x + 1, y + 1)};
+        Arrays.sort(round);
+        return round;
+    }
 
-    private static NumberedLoops ring(int open, int line) {
+    private static NumberedLoops ring(int[] round, int open, int line) {
         NumberedLoops x = fourByFour();
-        for (int side : ROUND) {
+        for (int side : round) {
             if (side != open) {
                 x.marks(side, side == line ? LINE : BLANK);
             }
@@ -87,26 +147,32 @@ public final class Promise13Rule3 extends Due {
     }
 
     static void aWayMayGoByCellsAlone() {
-        for (int open : ROUND) {
-            hintIs(ring(open, NONE), BLANKS, 3, open, open);
-            for (int line : ROUND) {
-                if (line != open) {
-                    hintIs(ring(open, line), LINES, 3, open, open);
+        for (int center = 0; center < 4; center++) {
+            int[] round = round(1 + center % 2, 1 + center / 2);
+            for (int open : round) {
+                hintIs(ring(round, open, NONE), BLANKS, 3, open, open);
+                for (int line : round) {
+                    if (line != open) {
+                        hintIs(ring(round, open, line), LINES, 3, open, open);
+                    }
                 }
             }
         }
     }
 
     static void aRingOfCellsWithOneLineClashesAtItsFirstSide() {
-        noHint(ring(NONE, NONE));
-        for (int line : ROUND) {
-            hintIs(ring(NONE, line), CLASH, 3, 9);
+        for (int center = 0; center < 4; center++) {
+            int[] round = round(1 + center % 2, 1 + center / 2);
+            noHint(ring(round, NONE, NONE));
+            for (int line : round) {
+                hintIs(ring(round, NONE, line), CLASH, 3, round[0]);
+            }
         }
     }
 
-    /** Beyond, 4, 5, 1 and beyond again; cell 5 is one of the ring's, too. */
+    /** Beyond, 4, 5, 1 and beyond again; cell 5 is one of those round cell 10, too. */
     private static NumberedLoops ringWithAWay(int line) {
-        NumberedLoops x = ring(NONE, line);
+        NumberedLoops x = ring(round(2, 2), NONE, line);
         blanks(x, 25, 26, 5);
         return x;
     }

@@ -72,6 +72,24 @@ public final class Promise17Forced extends Due {
         }
     }
 
+    static void theyAreThoseOfTheLoopsThatAreLeft() {
+        NumberedLoops x = new NumberedLoops();
+        due("forced(1) of all", x.forced(1), 0);
+        x.numbers(0, 4);
+        due("forced(0)", x.forced(0), bits(0, 2, 6, 7));
+        due("forced(1)", x.forced(1), bits(1, 3, 4, 5, 8, 9, 10, 11));
+        x.numbers(3, 4);
+        due("forced(0)", x.forced(0), NONE);
+        due("forced(1)", x.forced(1), NONE);
+        x.numbers(0, -1);
+        due("forced(0)", x.forced(0), bits(3, 5, 10, 11));
+        due("forced(1)", x.forced(1), bits(0, 1, 2, 4, 6, 7, 8, 9));
+        types(x, ".;");
+        x.grid();
+        due("forced(0) of another grid", x.forced(0), 15);
+        due("forced(1) of another grid", x.forced(1), 0);
+    }
+
     static void whatIsZeroOrOne() {
         for (int what : new int[] {-1, 2, Integer.MAX_VALUE, Integer.MIN_VALUE}) {
             changesNothing("forced(" + what + ")", x -> x.forced(what), BAD);

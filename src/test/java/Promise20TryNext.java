@@ -124,6 +124,20 @@ public final class Promise20TryNext extends Due {
         due("tryNext()", x.tryNext(), NONE);
     }
 
+    static void itIsOfTheLoopsThatAreLeft() {
+        NumberedLoops x = told("....;");
+        int before = x.tryNext();
+        x.numbers(0, 4);
+        due("tryNext()", x.tryNext(), NONE);
+        x.undo();
+        due("tryNext()", x.tryNext(), before);
+        types(x, ".3.;");
+        x.grid();
+        due("tryNext() of another grid", x.tryNext(), 0);
+        lines(x, 0);
+        due("tryNext()", x.tryNext(), NONE);
+    }
+
     static void itChangesNothing() {
         changesNothing("tryNext()", NumberedLoops::new, NumberedLoops::tryNext, 0);
         changesNothing("tryNext()", NumberedLoops::tryNext, busy().tryNext());
