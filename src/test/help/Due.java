@@ -7,7 +7,7 @@ import java.util.function.Supplier;
 import java.util.function.ToLongFunction;
 
 /**
- * What the tests of the promises share. A test is a static method without parameters of a class that stands above this
+ * What the tests of the promises share. A test is a static method without parameters of a class that extends this
  * one; it says by its name which sentence of the document it is about. No object is asked more than 512 times.
  */
 abstract class Due {

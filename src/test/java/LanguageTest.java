@@ -8,6 +8,7 @@ import java.nio.file.Path;
 import java.util.List;
 import java.util.Set;
 import java.util.TreeSet;
+import java.util.regex.Matcher;
 import java.util.regex.Pattern;
 
 /** What of LANGUAGE.md a look at the class and its source can tell. */
@@ -67,12 +68,33 @@ public final class LanguageTest {
     private static void classesInside() {
         holds(NumberedLoops.class.getDeclaredClasses().length <= 12, "too many classes");
         for (Class<?> c : NumberedLoops.class.getDeclaredClasses()) {
-            holds(Modifier.isStatic(c.getModifiers()), "not static: " + c);
-            int fields = 0;
-            for (Field f : c.getDeclaredFields()) {
-                fields += Modifier.isStatic(f.getModifiers()) ? 0 : 1;
+            holds(Modifier.isStatic(c.getModifiers()) && !Modifier.isPublic(c.getModifiers()), "public or not static: " + c);
+            holds(c.getDeclaredClasses().length == 0, "a class inside a class inside: " + c);
+            fieldsOf(c);
+            for (Method m : c.getDeclaredMethods()) {
+                holds(m.getParameterCount() <= 7, "too many parameters: " + m);
+                holds(FACE.stream().noneMatch(f -> f.startsWith(m.getName() + "(")), "with a public name: " + m);
             }
-            holds(fields <= 20, "too many fields: " + c);
+        }
+    }
+
+    private static void fieldsOf(Class<?> c) {
+        int fields = 0;
+        for (Field f : c.getDeclaredFields()) {
+            boolean isStatic = Modifier.isStatic(f.getModifiers());
+            fields += isStatic ? 0 : 1;
+            holds(!isStatic || Modifier.isFinal(f.getModifiers()), "not final: " + f);
+        }
+        holds(fields <= 20, "too many fields: " + c);
+    }
+
+    /** What is called of the library, each name with its class. */
+    private static void library(String at, String code) {
+        Set<String> wanted = Set.of("Math.min", "Math.max", "Long.bitCount", "Long.numberOfTrailingZeros", "Arrays.fill");
+        Matcher m = Pattern.compile("\\b(Math|Long|Integer|Arrays|String|StringBuilder|List|ArrayList)\\b(\\.\\w+)?")
+            .matcher(code.startsWith("import ") ? "" : code);
+        while (m.find()) {
+            holds(wanted.contains(m.group()), at + "not wanted of the library: " + m.group());
         }
     }
 
@@ -91,6 +113,8 @@ public final class LanguageTest {
             holds(!code.startsWith("import ") || code.equals("import java.util.Arrays;"), at + line);
             holds(!code.contains(" new ") || making.matcher(code).matches(), at + "makes an object: " + line);
             holds(!code.contains(" while "), at + "a loop without a counter: " + line);
+            holds(!code.contains("][") && !code.contains("\""), at + "rows of rows, or a text: " + line);
+            library(at, code);
             holds(line.chars().allMatch(c -> c < 128), at + "not ASCII");
             boolean opens = code.matches(" {4,8}(public|private|static|final|int|long|boolean|void|[A-Z]\\w*).*\\) \\{");
             since = opens ? i : since;
