@@ -1,3 +1,4 @@
+import java.io.DataInputStream;
 import java.io.IOException;
 import java.lang.reflect.Constructor;
 import java.lang.reflect.Field;
@@ -98,6 +99,55 @@ public final class LanguageTest {
         }
     }
 
+    /** All that the class and the classes inside it name of the library, as their class files say. */
+    private static void classFiles() throws IOException {
+        Set<String> wanted = Set.of("java/lang/Object", "java/lang/Object.<init>", "java/lang/Math", "java/lang/Math.min",
+            "java/lang/Math.max", "java/lang/Long", "java/lang/Long.bitCount", "java/lang/Long.numberOfTrailingZeros",
+            "java/util/Arrays", "java/util/Arrays.fill");
+        Set<String> named = namedBy(NumberedLoops.class);
+        for (Class<?> c : NumberedLoops.class.getDeclaredClasses()) {
+            named.addAll(namedBy(c));
+        }
+        for (String name : named) {
+            boolean own = name.startsWith("NumberedLoops") || name.startsWith("[");
+            holds(own || wanted.contains(name), "not wanted of the library: " + name);
+        }
+        holds(named.contains("java/util/Arrays.fill"), "the class files were not read");
+    }
+
+    /** The classes, fields and methods in a class file's row of constants. */
+    private static Set<String> namedBy(Class<?> c) throws IOException {
+        try (DataInputStream in = new DataInputStream(c.getResourceAsStream(c.getName() + ".class"))) {
+            in.skipBytes(8);
+            int size = in.readUnsignedShort();
+            String[] texts = new String[size];
+            int[] kinds = new int[size];
+            int[][] parts = new int[size][2];
+            for (int i = 1; i < size; i++) {
+                kinds[i] = in.readUnsignedByte();
+                switch (kinds[i]) {
+                    case 1 -> texts[i] = in.readUTF();
+                    case 3, 4 -> in.readInt();
+                    case 5, 6 -> in.readLong();
+                    case 7, 8, 16, 19, 20 -> parts[i][0] = in.readUnsignedShort();
+                    case 15 -> in.skipBytes(3);
+                    default -> parts[i] = new int[] {in.readUnsignedShort(), in.readUnsignedShort()};
+                }
+                i += kinds[i] == 5 || kinds[i] == 6 ? 1 : 0;
+            }
+            Set<String> named = new TreeSet<>();
+            for (int i = 1; i < size; i++) {
+                if (kinds[i] == 7) {
+                    named.add(texts[parts[i][0]]);
+                } else if (kinds[i] >= 9 && kinds[i] <= 11) {
+                    named.add(texts[parts[parts[i][0]][0]] + "." + texts[parts[parts[i][1]][0]]);
+                }
+                holds(kinds[i] != 17 && kinds[i] != 18, "something is linked at run time: " + c);
+            }
+            return named;
+        }
+    }
+
     private static void source() throws IOException {
         List<String> lines = Files.readAllLines(Path.of("src/main/java/NumberedLoops.java"));
         Pattern unwanted = Pattern.compile("\\b(throw|throws|try|catch|finally|synchronized|assert|package|Exact|Object"
@@ -126,6 +176,7 @@ public final class LanguageTest {
     public static void main(String[] args) throws IOException {
         face();
         classesInside();
+        classFiles();
         source();
         System.out.println(wrong == 0 ? "the language is kept to" : wrong + " rules are broken");
         if (wrong != 0) {

@@ -68,6 +68,20 @@ public final class Promise01NewObject extends Due {
         due("the second one", emptied(y), emptied(busy()));
     }
 
+    /** An object is used for at most 512 calls: each of them has its answer. */
+    static void eachOf512CallsIsAnswered() {
+        NumberedLoops x = new NumberedLoops();
+        for (int call = 1; call <= 510; call++) {
+            due("marks(), call " + call, x.marks(11, call % 2 == 1 ? LINE : BLANK), call == 1 ? OPEN : 1 + call % 2);
+        }
+        due("many(99), call 511", x.many(99), 6);
+        due("count(7), call 512", x.count(7), 10);
+        NumberedLoops y = new NumberedLoops();
+        for (int call = 1; call <= 512; call++) {
+            due("type(), call " + call, y.type(46), call <= 40 ? call : FULL);
+        }
+    }
+
     public static void main(String[] args) {
         runAll(Promise01NewObject.class);
     }

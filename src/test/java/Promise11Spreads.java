@@ -73,6 +73,51 @@ public final class Promise11Spreads extends Due {
         }
     }
 
+    /** All steps that there are, one by one: how many. */
+    private static int stepsOf(NumberedLoops x) {
+        int steps = 0;
+        while (steps < 41 && x.step() > 0) {
+            steps++;
+        }
+        return steps;
+    }
+
+    private static NumberedLoops longWay() {
+        NumberedLoops x = told("3201;..2.;..2.;22.2;");
+        lines(x, 5);
+        return x;
+    }
+
+    static void itGoesOnForAsManyStepsAsItTakes() {
+        due("steps one by one", stepsOf(longWay()), 36);
+        NumberedLoops x = longWay();
+        long loop = x.loop(0);
+        due("many(2)", x.many(2), 1);
+        due("spreads()", x.spreads(), 39);
+        noHint(x);
+        for (int side = 0; side < 40; side++) {
+            due("side(" + side + ")", x.side(side), (loop >> side & 1) == 1 ? LINE : BLANK);
+        }
+    }
+
+    private static NumberedLoops longWayIntoAClash() {
+        NumberedLoops x = told("3123;.23.;.1.2;.2.2;");
+        lines(x, 6);
+        blanks(x, 1, 22);
+        return x;
+    }
+
+    static void itGoesOnForAsManyStepsAsItTakesIntoAClash() {
+        NumberedLoops x = longWayIntoAClash();
+        due("steps one by one", stepsOf(x), 36);
+        due("step()", x.step(), CLASHES);
+        NumberedLoops y = longWayIntoAClash();
+        int open = y.keep(0);
+        due("spreads()", y.spreads(), open - x.keep(0));
+        due("sides", sidesSeen(y), sidesSeen(x));
+        due("hint(0)", y.hint(0), CLASH);
+    }
+
     static void itCanBeUndoneAsOne() {
         NumberedLoops x = told("4.;..;");
         x.spreads();

@@ -1,3 +1,5 @@
+import java.util.Arrays;
+
 /** Promise 13, rule 2: chains that would close too soon. */
 public final class Promise13Rule2 extends Due {
     static void aClosedChainAloneIsNeither() {
@@ -183,6 +185,70 @@ public final class Promise13Rule2 extends Due {
         hintIs(x, BLANKS, 2, 5, 5);
         blanks(x, 5);
         hintIs(x, BLANKS, 2, 7, 7);
+    }
+
+    /** The sides that meet at a point. */
+    private static int[] meetingAt(NumberedLoops x, int point) {
+        int[] those = new int[4];
+        int n = 0;
+        for (int i = 0; i < 4; i++) {
+            if (x.sideOf(1, point, i) != NONE) {
+                those[n] = x.sideOf(1, point, i);
+                n++;
+            }
+        }
+        return Arrays.copyOf(those, n);
+    }
+
+    /** All sides of a cell but one are lines, with blanks where two of them meet. At a corner rule 1 goes first. */
+    private static void closesOverASide(int cell, int i) {
+        NumberedLoops x = fourByFour();
+        int first = cell / 4 * 5 + cell % 4;
+        int[] corners = {first, first + 1, first + 5, first + 6};
+        int open = x.sideOf(0, cell, i);
+        for (int k = 0; k < 4; k++) {
+            if (k != i) {
+                lines(x, x.sideOf(0, cell, k));
+            }
+        }
+        for (int point : corners) {
+            int[] meeting = meetingAt(x, point);
+            boolean atOpen = Arrays.stream(meeting).anyMatch(side -> side == open);
+            if (atOpen && meeting.length == 2) {
+                return;
+            }
+            for (int side : meeting) {
+                if (!atOpen && x.side(side) == OPEN) {
+                    blanks(x, side);
+                }
+            }
+        }
+        // A blank that ends at a corner of the grid tells the other side there.
+        x.spreads();
+        due("side(" + open + ")", x.side(open), OPEN);
+        int elsewhere = cell / 4 < 2 ? 14 : 6;
+        lines(x, elsewhere);
+        hintIs(x, BLANKS, 2, open, open);
+        x.marks(elsewhere, OPEN);
+        x.numbers(cell / 4 < 2 ? 14 : 1, 1);
+        hintIs(x, BLANKS, 2, open, open);
+    }
+
+    static void overEachSideOfEachCell() {
+        for (int cell = 0; cell < 16; cell++) {
+            for (int i = 0; i < 4; i++) {
+                closesOverASide(cell, i);
+            }
+        }
+    }
+
+    static void theHighestSideThatCanBeToldIsLookedAt() {
+        NumberedLoops x = fourByFour();
+        lines(x, 15, 19, 39);
+        blanks(x, 34);
+        noHint(x);
+        lines(x, 5);
+        hintIs(x, BLANKS, 2, 38, 38);
     }
 
     public static void main(String[] args) {

@@ -119,6 +119,40 @@ public final class Promise15Many extends Due {
         }
     }
 
+    /** Of all loops of a grid without numbers, those with so many sides round the cell are left. */
+    static void aNumberInEachCellOfEachGridCounts() {
+        for (int w = 1; w <= 4; w++) {
+            for (int h = 1; h <= 4; h++) {
+                int[][] with = sidesRoundCells(w, h);
+                for (int cell = 0; cell < w * h; cell++) {
+                    NumberedLoops x = told(empty(w, h));
+                    for (int n = 0; n <= 4; n++) {
+                        x.numbers(cell, n);
+                        due(w + " by " + h + " with " + n + " at " + cell, x.many(10000), with[cell][n]);
+                    }
+                }
+            }
+        }
+    }
+
+    /** For each cell: how many loops have 0, 1, .. of its sides. Four hundred loops of each object. */
+    private static int[][] sidesRoundCells(int w, int h) {
+        int[][] with = new int[w * h][5];
+        int many = told(empty(w, h)).many(10000);
+        NumberedLoops x = null;
+        for (int k = 0; k < many; k++) {
+            x = k % 400 == 0 ? told(empty(w, h)) : x;
+            long loop = x.loop(k);
+            for (int cell = 0; cell < w * h; cell++) {
+                int column = cell % w;
+                int row = cell / w;
+                with[cell][Long.bitCount(loop & bits(lying(w, column, row), lying(w, column, row + 1),
+                    standing(w, h, column, row), standing(w, h, column + 1, row)))]++;
+            }
+        }
+        return with;
+    }
+
     static void allNumbersCountTogether() {
         due("many(99)", told("33;..;").many(99), 1);
         due("many(99)", told("33;11;").many(99), 1);

@@ -129,6 +129,27 @@ public final class Promise16Loop extends Due {
         due("loop(2)", x.loop(2), new NumberedLoops().loop(2));
     }
 
+    /** Behind each call that changes something, asked for at once: not what was there before. */
+    static void itIsOfTheLoopsThatAreLeft() {
+        NumberedLoops x = told("..;");
+        due("loop(0)", x.loop(0), bits(0, 2, 4, 5));
+        x.keep(0);
+        blanks(x, 0);
+        due("loop(0) behind marks()", x.loop(0), bits(1, 3, 5, 6));
+        due("loop(1) behind marks()", x.loop(1), NONE);
+        x.undo();
+        due("loop(1) behind undo()", x.loop(1), bits(0, 1, 2, 3, 4, 6));
+        x.numbers(1, 3);
+        due("loop(0) behind numbers()", x.loop(0), bits(0, 1, 2, 3, 4, 6));
+        due("loop(1) behind numbers()", x.loop(1), NONE);
+        x.back(0);
+        due("loop(2) behind back()", x.loop(2), bits(1, 3, 5, 6));
+        types(x, ".;");
+        x.grid();
+        due("loop(0) behind grid()", x.loop(0), 15);
+        due("loop(1) behind grid()", x.loop(1), NONE);
+    }
+
     static void itChangesNothing() {
         changesNothing("loop(0)", NumberedLoops::new, x -> x.loop(0), 197);
         changesNothing("loop(0)", x -> x.loop(0), busy().loop(0));

@@ -80,6 +80,27 @@ public final class Promise18Inside extends Due {
         due("inside(10000) without a loop", told("0;").inside(10000), BAD);
     }
 
+    /** Behind each call that changes something, asked for at once: not what was there before. */
+    static void itIsOfTheLoopsThatAreLeft() {
+        NumberedLoops x = told("..;");
+        due("inside(0)", x.inside(0), 1);
+        x.keep(0);
+        blanks(x, 0);
+        due("inside(0) behind marks()", x.inside(0), 2);
+        due("inside(1) behind marks()", x.inside(1), NONE);
+        x.undo();
+        due("inside(1) behind undo()", x.inside(1), 3);
+        x.numbers(1, 3);
+        due("inside(0) behind numbers()", x.inside(0), 3);
+        due("inside(1) behind numbers()", x.inside(1), NONE);
+        x.back(0);
+        due("inside(2) behind back()", x.inside(2), 2);
+        types(x, ".;.;");
+        x.grid();
+        due("inside(1) behind grid()", x.inside(1), 2);
+        due("inside(2) behind grid()", x.inside(2), 3);
+    }
+
     static void itChangesNothing() {
         changesNothing("inside(0)", NumberedLoops::new, x -> x.inside(0), 1);
         changesNothing("inside(0)", x -> x.inside(0), busy().inside(0));

@@ -127,6 +127,40 @@ public final class Promise19NumbersThat extends Due {
         }
     }
 
+    /** Behind each call that changes something, asked for at once: not what was there before. */
+    static void theyAreOfTheLoopsThatAreLeft() {
+        NumberedLoops x = told("41;");
+        due("numbersThat(0)", x.numbersThat(0), 0b11);
+        x.keep(0);
+        blanks(x, 0);
+        due("numbersThat(0) behind marks()", x.numbersThat(0), 0);
+        due("numbersThat(1) behind marks()", x.numbersThat(1), 0);
+        x.undo();
+        due("numbersThat(0) behind undo()", x.numbersThat(0), 0b11);
+        x.numbers(1, 0);
+        due("numbersThat(0) behind numbers()", x.numbersThat(0), 0);
+        due("numbersThat(1) behind numbers()", x.numbersThat(1), 0b10);
+        x.back(0);
+        due("numbersThat(1) behind back()", x.numbersThat(1), 0);
+        due("numbersThat(0) behind back()", x.numbersThat(0), 0b11);
+        due("step()", x.step(), 4);
+        due("numbersThat(0) behind step()", x.numbersThat(0), 0b11);
+        types(x, "0;");
+        x.grid();
+        due("numbersThat(1) behind grid()", x.numbersThat(1), 1);
+        due("numbersThat(0) behind grid()", x.numbersThat(0), 0);
+    }
+
+    /** What followed from a number stands when it goes: the sides stay as they are marked. */
+    static void sidesThatFollowedFromANumberStay() {
+        NumberedLoops x = told("4.;");
+        due("numbersThat(0)", x.numbersThat(0), 0);
+        x.spreads();
+        due("numbersThat(0) behind spreads()", x.numbersThat(0), 1);
+        x.undo();
+        due("numbersThat(0) behind undo()", x.numbersThat(0), 0);
+    }
+
     static void whatIsZeroOrOne() {
         for (int what : new int[] {-1, 2, Integer.MAX_VALUE, Integer.MIN_VALUE}) {
             changesNothing("numbersThat(" + what + ")", x -> x.numbersThat(what), BAD);
